@@ -166,7 +166,12 @@ public final class BookTest {
         Check.due("bind behind a reserved one", book.bind(0, 0), CLASH);
         Check.draft(book, "x z");
         Check.due("bind beside them", book.bind(0, 0), 2);
-        Check.due("the draft stays", book.count(10), 2);
+        Check.draft(book, "d e f g");
+        Check.due("bind of four strokes", book.bind(0, 0), 3);
+        Check.due("bind of the same four", book.bind(0, 0), CLASH);
+        Check.draft(book, "d e f Cg");
+        Check.due("bind of four others", book.bind(0, 0), 4);
+        Check.due("the draft stays", book.count(10), 4);
     }
 
     private static ShortcutBook full() {
@@ -435,6 +440,15 @@ public final class BookTest {
     }
 
     private static void snapshots() {
+        ShortcutBook fresh = new ShortcutBook();
+        Check.due("restoreSnapshot(0) of a new one", fresh.restoreSnapshot(0), false);
+        Check.due("restoreSnapshot(1) of a new one", fresh.restoreSnapshot(1), false);
+        Check.due("saveSnapshot(0)", fresh.saveSnapshot(0), true);
+        Check.due("saveSnapshot(1)", fresh.saveSnapshot(1), true);
+        for (int slot : new int[] {-1, 2, 3, Integer.MAX_VALUE, Integer.MIN_VALUE}) {
+            Check.due("restoreSnapshot(" + slot + ")", fresh.restoreSnapshot(slot), false);
+            Check.due("saveSnapshot(" + slot + ")", fresh.saveSnapshot(slot), false);
+        }
         ShortcutBook book = Check.loaded("mode 0;plain;switch 1;reserve x;bind 0 0 a b;bind 0 1 c;layer q a b;timeout 50;");
         Check.due("saveSnapshot(-1)", book.saveSnapshot(-1), false);
         Check.due("saveSnapshot(2)", book.saveSnapshot(2), false);

@@ -8,6 +8,7 @@ public final class InputTest {
         buffer();
         load();
         loadReplaces();
+        loadTwice();
         blanksAndCase();
         syntax();
         range();
@@ -134,12 +135,37 @@ public final class InputTest {
         Check.due("the draft stays", book.draftStroke(0), 25);
     }
 
+    /** Nothing of one text is left in the next one. */
+    private static void loadTwice() {
+        ShortcutBook book = Check.loaded("mode 0;plain;switch 1;reserve x;bind 0 0 a;bind 0 1 b;layer q a b;timeout 5;");
+        Check.input(book, "mode 0;back;plain;plain;reserve y z;bind 1 2 c d;bind 0 0 e f;layer w c d e f;");
+        Check.due("load", book.load(), 2);
+        Check.due("reserved", book.count(4), 1);
+        Check.due("reserved stroke", book.reservedStroke(0, 1), 25);
+        Check.due("command of 0", book.binding(0, 1), 2);
+        Check.due("mode of 0", book.binding(0, 0), 1);
+        Check.due("strokes of 1", book.binding(1, 2), 2);
+        Check.due("kind", book.command(0, 0), 2);
+        Check.due("target", book.command(1, 1), -1);
+        Check.due("bindings with 0", book.command(0, 3), 1);
+        Check.due("holder", book.layer(0, 0), 22);
+        Check.due("mapped", book.mapped(0, 0), -1);
+        Check.due("mapped", book.mapped(0, 2), 3);
+        Check.due("mapped keys", book.layer(0, 1), 2);
+        Check.due("timeout", book.count(9), 0);
+        Check.input(book, "plain;bind 0 0 a;bind 0 0 b;bind 0 0 c;");
+        Check.due("load", book.load(), 3);
+        Check.due("layers", book.count(1), 0);
+    }
+
     private static void blanksAndCase() {
         ShortcutBook book = Check.loaded("  plain\n;bind0 000a\nMSb ; ");
         Check.due("tokens without blanks between", book.count(3), 1);
         Check.due("a stroke", book.bindingStroke(0, 0), 0);
         Check.due("modifiers in any order", book.bindingStroke(0, 1), 32 * 10 + 1);
         Check.textError("Plain;", false, 1, 0);
+        Check.textError("plainZ;", false, 1, 0);
+        Check.textError("zplain;", false, 1, 0);
         Check.textError("plain\t;", false, 1, 5);
         Check.textError("plain\r;", false, 1, 5);
     }

@@ -275,6 +275,10 @@ public final class TypingTest {
         Check.due("dead once", book.typing(2), 1);
         Check.due("setTimeout(1)", book.setTimeout(1), 5);
         Check.due("dead once", book.typing(2), 1);
+        book.type(0);
+        book.tick(1);
+        Check.due("one tick is enough", book.count(5), 0);
+        Check.due("dead twice", book.typing(2), 2);
     }
 
     private static void playTexts() {
@@ -329,6 +333,8 @@ public final class TypingTest {
     }
 
     private static void playStops() {
+        ShortcutBook first = Check.loaded("plain;");
+        Check.due("the first binding", Check.play(first, "bind 0 0 a;force 0 0 b;tick 1;"), 3);
         String[] impossible = {"release a", "release q", "hold 16", "tick 0", "unbind 2", "bind 1 0 e", "bind 0 2 e",
             "bind 0 0 a", "bind 0 0 x y", "force 1 0 e", "force 0 2 e", "force 0 0 x", "unbind 999", "bind 999 999 e"};
         for (String one : impossible) {

@@ -20,6 +20,7 @@ public final class ViewTest {
         cheapestOne();
         cheapestTwo();
         cheapestNone();
+        cheapestMeta();
         effort();
         meanCost();
         Check.end();
@@ -104,6 +105,9 @@ public final class ViewTest {
         ShortcutBook book = Check.loaded("mode 0;mode 1;plain;bind 0 0 a b;bind 1 0 a;bind 2 0 a c;");
         Check.due("visible(2)", book.visible(2), 1);
         Check.due("visibleAt(2, 0)", book.visibleAt(2, 0), 2);
+        ShortcutBook turned = Check.loaded("mode 0;plain;bind 1 0 a;bind 0 0 a b;");
+        Check.due("a lower number shadows too", turned.visible(1), 1);
+        Check.due("visibleAt(1, 0)", turned.visibleAt(1, 0), 0);
     }
 
     private static void shadowOf() {
@@ -129,6 +133,8 @@ public final class ViewTest {
         book.unbind(2);
         Check.due("reachable(1)", book.reachable(1), 2);
         Check.due("unreachable()", book.unreachable(), 2);
+        Check.due("reachable(0) of three", Check.loaded("plain;plain;back;bind 0 1 a;").reachable(0), 1);
+        Check.due("unreachable() of three", Check.loaded("plain;plain;back;bind 0 1 a;").unreachable(), 2);
         Check.due("unreachable() of nothing", new ShortcutBook().unreachable(), 0);
         Check.due("reachable(0) of nothing", new ShortcutBook().reachable(0), 0);
     }
@@ -233,6 +239,40 @@ public final class ViewTest {
         Check.due("two strokes without shadows", book.cheapest(1, 2, false), 4);
         Check.due("Aj", book.draftStroke(0), 32 * 4 + 9);
         Check.due("a", book.draftStroke(1), 0);
+    }
+
+    /** Meta comes last of all that cost the same. */
+    private static void cheapestMeta() {
+        ShortcutBook one = Check.loaded("plain;");
+        ShortcutBook two = Check.loaded("plain;");
+        for (int set = 0; set < 8; set = set == 0 ? 1 : 2 * set) {
+            for (int key = 0; key < 26; key++) {
+                boolean home = "asdfghjkl".indexOf('a' + key) >= 0;
+                if (set == 0 || home) {
+                    one.clearDraft();
+                    one.draft(32 * set + key);
+                    one.bind(0, 0);
+                    two.clearDraft();
+                    two.draft(0);
+                    two.draft(32 * set + key);
+                    two.bind(0, 0);
+                }
+            }
+        }
+        Check.due("bindings", one.count(3), 26 + 27);
+        Check.due("one stroke", one.cheapest(0, 1, true), 3);
+        Check.due("Ma", one.draftStroke(0), 256);
+        Check.due("two strokes", one.cheapest(0, 2, true), 4);
+        Check.due("Ma", one.draftStroke(0), 256);
+        Check.due("a", one.draftStroke(1), 0);
+        for (char key : "sdfghjklqwertyuiop".toCharArray()) {
+            Check.draft(two, String.valueOf(key));
+            two.bind(0, 0);
+        }
+        Check.due("bindings", two.count(3), 26 + 27 + 18);
+        Check.due("two strokes behind a", two.cheapest(0, 2, true), 4);
+        Check.due("a", two.draftStroke(0), 0);
+        Check.due("Ma", two.draftStroke(1), 256);
     }
 
     private static void effort() {
