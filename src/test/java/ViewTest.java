@@ -105,6 +105,10 @@ public final class ViewTest {
         ShortcutBook book = Check.loaded("mode 0;mode 1;plain;bind 0 0 a b;bind 1 0 a;bind 2 0 a c;");
         Check.due("visible(2)", book.visible(2), 1);
         Check.due("visibleAt(2, 0)", book.visibleAt(2, 0), 2);
+        ShortcutBook chain = Check.loaded("mode 0;mode 1;mode 2;mode 3;mode 4;plain;bind 0 0 a;bind 0 0 b;bind 1 0 b c;");
+        Check.due("five modes above", chain.visible(5), 2);
+        Check.due("shadowOf(5, 0)", chain.shadowOf(5, 0), NONE);
+        Check.due("shadowOf(5, 1)", chain.shadowOf(5, 1), 2);
         ShortcutBook turned = Check.loaded("mode 0;plain;bind 1 0 a;bind 0 0 a b;");
         Check.due("a lower number shadows too", turned.visible(1), 1);
         Check.due("visibleAt(1, 0)", turned.visibleAt(1, 0), 0);
