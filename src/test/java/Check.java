@@ -6,15 +6,29 @@ final class Check {
 
     private static int wrong = 0;
     private static int made = 0;
+    private static String about = "";
 
     private Check() {
+    }
+
+    /** What the next answers are about; it stands before each of them that is not as due. */
+    static void about(String words) {
+        about = words.isEmpty() ? "" : "\"" + words + "\": ";
+    }
+
+    static int made() {
+        return made;
+    }
+
+    static void fault(String told) {
+        wrong++;
+        System.out.println(about + told);
     }
 
     static void due(String call, long got, long want) {
         made++;
         if (got != want) {
-            wrong++;
-            System.out.println(call + " answered " + got + ", due is " + want);
+            fault(call + " answered " + got + ", due is " + want);
         }
     }
 
@@ -43,8 +57,7 @@ final class Check {
             got = e.getClass().getSimpleName();
         }
         if (!got.equals(want)) {
-            wrong++;
-            System.out.println(call + " gave " + got + ", due is " + want);
+            fault(call + " gave " + got + ", due is " + want);
         }
     }
 
