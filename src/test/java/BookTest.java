@@ -311,10 +311,10 @@ public final class BookTest {
     }
 
     private static void costs() {
-        ShortcutBook book = new ShortcutBook();
         String cheap = "asdfghjkl";
         String middle = "qwertyuiop";
         for (char key = 'a'; key <= 'z'; key++) {
+            ShortcutBook book = new ShortcutBook();
             int due = cheap.indexOf(key) >= 0 ? 1 : middle.indexOf(key) >= 0 ? 2 : 3;
             for (int set = 0; set < 16; set++) {
                 book.clearDraft();
@@ -322,8 +322,9 @@ public final class BookTest {
                 Check.due("draftCost of " + set + key, book.draftCost(), due + 2 * Integer.bitCount(set));
             }
         }
-        Check.draft(book, "CSAMz CSAMz CSAMz CSAMz");
-        Check.due("the highest cost", book.draftCost(), 44);
+        ShortcutBook dear = new ShortcutBook();
+        Check.draft(dear, "CSAMz CSAMz CSAMz CSAMz");
+        Check.due("the highest cost", dear.draftCost(), 44);
     }
 
     private static void packed() {

@@ -717,6 +717,8 @@ final class TextSentences {
         Check.textError("switch 9 !", false, 2, 7);
         Check.textError("plain;bind 9 9 !", false, 2, 11);
         Check.textError("plain;bind 0 9 !", false, 2, 13);
+        Check.textError("plain;plain;bind 1 a;", false, 2, 17);
+        Check.textError("plain;plain;bind 1 0 a;", false, 2, 17);
         Check.textError("hold 1 2;!", true, 1, 7);
         Check.textError("type a b c d e;!", true, 3, 13);
     }

@@ -224,13 +224,10 @@ public final class TypingTest {
         book.tick(7);
         Check.due("typing(4)", book.typing(4), 7);
         Check.due("count(6)", book.count(6), 1008);
-        ShortcutBook late = Check.loaded("");
-        StringBuilder text = new StringBuilder();
-        for (int i = 0; i < 40; i++) {
-            text.append("tick 999;");
-        }
+        ShortcutBook late = new ShortcutBook();
+        Check.input(late, "tick 999;".repeat(40));
         for (int i = 0; i < 25; i++) {
-            Check.due("play of ticks", Check.play(late, text.toString()), 40);
+            Check.due("play of ticks", late.play(), 40);
         }
         late.tick(999);
         Check.due("tick(2)", late.tick(2), FULL);
@@ -345,17 +342,15 @@ public final class TypingTest {
             Check.due(one + ": the bindings", book.digest(), digest);
             Check.due(one + ": no error", book.errorCode(), 0);
         }
-        ShortcutBook late = Check.loaded("");
-        for (int i = 0; i < 99; i++) {
-            for (int k = 0; k < 2; k++) {
-                late.tick(1000);
-            }
+        ShortcutBook late = new ShortcutBook();
+        late.tick(200);
+        Check.input(late, "tick 999;".repeat(40));
+        for (int i = 0; i < 25; i++) {
+            late.play();
         }
-        for (int i = 0; i < 20; i++) {
-            Check.play(late, "tick 999;".repeat(40));
-        }
-        Check.due("ticks beyond the end", Check.play(late, "tick 999;".repeat(40)), 2);
-        Check.due("the time stays", late.count(6), 999198);
+        Check.due("ticks beyond the end", late.play(), 0);
+        Check.due("fewer ticks", Check.play(late, "tick 799;tick 1;tick 1;tick 1;"), 2);
+        Check.due("the time stays", late.count(6), 1000000);
         ShortcutBook full = Check.loaded("mode 0;plain;");
         for (int i = 0; i < 80; i++) {
             full.clearDraft();
