@@ -1,4 +1,4 @@
-/** Promises 27 to 41 without 36 and 39: visible bindings and free sequences. */
+/** Promises 27 to 41 without 36 and 39: visible bindings and free sequences; indexes far beyond the end. */
 public final class ViewTest {
     private static final int REFUSED = ShortcutBook.REFUSED;
     private static final int NONE = ShortcutBook.NONE;
@@ -21,6 +21,8 @@ public final class ViewTest {
         cheapestTwo();
         cheapestNone();
         cheapestMeta();
+        cheapestInOrder();
+        farIndexes();
         effort();
         meanCost();
         Check.end();
@@ -277,6 +279,54 @@ public final class ViewTest {
         Check.due("two strokes behind a", two.cheapest(0, 2, true), 4);
         Check.due("a", two.draftStroke(0), 0);
         Check.due("Ma", two.draftStroke(1), 256);
+    }
+
+    /** Binds what is cheapest until there is no room: strokes come by cost, then by their numbers. */
+    private static void cheapestInOrder() {
+        ShortcutBook book = Check.loaded("plain;");
+        int bound = 0;
+        for (int cost = 1; cost <= 4; cost++) {
+            for (int stroke = 0; stroke < 32 * 9 && bound < 80; stroke++) {
+                if (stroke % 32 < 26 && Integer.bitCount(stroke / 32) <= 1 && costOf(stroke) == cost) {
+                    Check.due("cheapest(0, 1, true) behind " + bound, book.cheapest(0, 1, true), cost);
+                    Check.due("its stroke", book.draftStroke(0), stroke);
+                    Check.due("bind(0, 0)", book.bind(0, 0), bound);
+                    bound++;
+                }
+            }
+        }
+        Check.due("all are bound", bound, 80);
+        Check.due("freeStrokes(0)", book.freeStrokes(0), 50);
+        Check.due("two strokes", book.cheapest(0, 2, true), 5);
+        Check.due("the first stroke", book.draftStroke(0), Check.stroke("Sw"));
+        Check.due("the second stroke", book.draftStroke(1), 0);
+    }
+
+    private static int costOf(int stroke) {
+        int key = 1;
+        if ("qwertyuiop".indexOf((char) ('a' + stroke % 32)) >= 0) {
+            key = 2;
+        } else if ("asdfghjkl".indexOf((char) ('a' + stroke % 32)) < 0) {
+            key = 3;
+        }
+        return key + 2 * Integer.bitCount(stroke / 32);
+    }
+
+    private static void farIndexes() {
+        ShortcutBook book = Check.loaded("plain;switch 0;reserve z;bind 0 0 a b c d;bind 0 1 b;");
+        Check.draft(book, "a b c d");
+        book.type(1);
+        book.type(0);
+        Check.due("a row", book.count(7), 1);
+        Check.due("pending strokes", book.count(5), 1);
+        for (int far : new int[] {4, 5, 6, 7, 8, 31, 80, 1000, Integer.MAX_VALUE, -2, -5, Integer.MIN_VALUE}) {
+            Check.due("draftStroke(" + far + ")", book.draftStroke(far), NONE);
+            Check.due("bindingStroke(0, " + far + ")", book.bindingStroke(0, far), NONE);
+            Check.due("reservedStroke(0, " + far + ")", book.reservedStroke(0, far), NONE);
+            Check.due("visibleAt(0, " + far + ")", book.visibleAt(0, far), NONE);
+            Check.due("pending(" + far + ")", book.pending(far), NONE);
+            Check.due("backTo(" + far + ")", book.backTo(far), NONE);
+        }
     }
 
     private static void effort() {
